@@ -1,0 +1,111 @@
+import java.nio.charset.StandardCharsets;
+import java.util.NoSuchElementException;
+
+/** Compares answers, counts them, and feeds texts. */
+final class Check {
+    interface Call {
+        void run();
+    }
+
+    private static int passed;
+    private static int failed;
+
+    private Check() {
+    }
+
+    static void same(String what, long got, long due) {
+        tell(got == due, what + " answered " + got + ", due is " + due);
+    }
+
+    static void sameNumber(String what, double got, double due) {
+        tell(got == due, what + " answered " + got + ", due is " + due);
+    }
+
+    static void sameText(String what, String got, String due) {
+        tell(got.equals(due), what + " answered " + got + ", due is " + due);
+    }
+
+    static void yes(String what, boolean got) {
+        tell(got, what + " is false");
+    }
+
+    static void no(String what, boolean got) {
+        tell(!got, what + " is true");
+    }
+
+    static void noSuch(String what, Call call) {
+        sameText(what, thrownBy(call), "NoSuchElementException");
+    }
+
+    static void illegal(String what, Call call) {
+        sameText(what, thrownBy(call), "IllegalArgumentException");
+    }
+
+    /** The exact class: a subclass would be another exception than the document's. */
+    static String thrownBy(Call call) {
+        try {
+            call.run();
+            return "nothing";
+        } catch (RuntimeException e) {
+            return e.getClass().getSimpleName();
+        }
+    }
+
+    private static void tell(boolean good, String line) {
+        if (good) {
+            passed++;
+        } else {
+            failed++;
+            System.out.println("  " + line);
+        }
+    }
+
+    static void end() {
+        System.out.println("  " + passed + " answers as due, " + failed + " not");
+        if (failed != 0 || passed == 0) {
+            System.exit(1);
+        }
+    }
+
+    static void feed(CinemaChain x, String text) {
+        byte[] bytes = text.getBytes(StandardCharsets.ISO_8859_1);
+        for (int at = 0; at < bytes.length; at += 20) {
+            x.feed(four(bytes, at), four(bytes, at + 4), four(bytes, at + 8), four(bytes, at + 12),
+                    four(bytes, at + 16));
+        }
+    }
+
+    private static int four(byte[] bytes, int at) {
+        int word = 0;
+        for (int i = at; i < at + 4; i++) {
+            word = word << 8 | (i < bytes.length ? bytes[i] & 255 : ' ');
+        }
+        return word;
+    }
+
+    static int load(CinemaChain x, String text) {
+        feed(x, text);
+        return x.load(text.length());
+    }
+
+    static int query(CinemaChain x, String text) {
+        feed(x, text);
+        return x.query(text.length());
+    }
+
+    static CinemaChain loaded(String text) {
+        CinemaChain x = new CinemaChain();
+        yes("the text of the test can be loaded", load(x, text) >= 0);
+        return x;
+    }
+
+    static String formatted(CinemaChain x, int screen) {
+        int length = x.format(screen);
+        StringBuilder text = new StringBuilder();
+        for (int i = 0; i < length; i++) {
+            text.append((char) x.formattedByte(i));
+        }
+        same("formattedByte behind the text", x.formattedByte(length), CinemaChain.NONE);
+        return text.toString();
+    }
+}
