@@ -1269,30 +1269,28 @@ public final class CinemaChain {
                 next++;
             }
             start = next;
-            kind = next < length ? kindOf(text[next]) : END;
             value = 0;
-            while (next < length && kindOf(text[next]) == kind) {
-                addToValue(text[next]);
+            while (next < length && text[next] >= 'a' && text[next] <= 'z') {
                 next++;
-                if (kind == SIGN) {
-                    return;
-                }
+                kind = WORD;
             }
-        }
-
-        private void addToValue(int sign) {
-            if (kind == NUMBER) {
-                value = Math.min(VERY_GREAT, value * 10 + sign - '0');
-            } else {
-                value = sign;
+            if (next > start) {
+                return;
             }
-        }
-
-        private static int kindOf(int sign) {
-            if (sign >= 'a' && sign <= 'z') {
-                return WORD;
+            while (next < length && text[next] >= '0' && text[next] <= '9') {
+                value = value < VERY_GREAT ? value * 10 + text[next] - '0' : VERY_GREAT;
+                next++;
+                kind = NUMBER;
             }
-            return sign >= '0' && sign <= '9' ? NUMBER : SIGN;
+            if (next > start) {
+                return;
+            }
+            kind = END;
+            if (next < length) {
+                value = text[next];
+                next++;
+                kind = SIGN;
+            }
         }
 
         boolean isWord(String word) {
@@ -1517,19 +1515,19 @@ public final class CinemaChain {
         }
 
         private int readTest(int open) {
-            int found = readConjunction(open);
-            for (int more = 0; more < MAX_QUERY && tokens.takeWord("or"); more++) {
-                found |= readConjunction(open);
+            int found = 0;
+            int conjunction = readFactor(open);
+            for (int more = 0; more < MAX_QUERY; more++) {
+                if (tokens.takeWord("and")) {
+                    conjunction &= readFactor(open);
+                } else if (tokens.takeWord("or")) {
+                    found |= conjunction;
+                    conjunction = readFactor(open);
+                } else {
+                    return found | conjunction;
+                }
             }
-            return found;
-        }
-
-        private int readConjunction(int open) {
-            int found = readFactor(open);
-            for (int more = 0; more < MAX_QUERY && tokens.takeWord("and"); more++) {
-                found &= readFactor(open);
-            }
-            return found;
+            return found | conjunction;
         }
 
         private int readFactor(int open) {
@@ -1590,7 +1588,8 @@ public final class CinemaChain {
                 return tokens.takeNumber(0, MAX_QUERY_NUMBER);
             }
             for (int index = 0; index < PROPERTIES.length; index++) {
-                if (tokens.takeWord(PROPERTIES[index].word)) {
+                if (tokens.isWord(PROPERTIES[index].word)) {
+                    tokens.advance();
                     return -1 - index;
                 }
             }

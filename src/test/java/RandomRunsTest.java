@@ -232,9 +232,19 @@ public final class RandomRunsTest {
 
     // ---- calls ----
 
+    private static final int[] EXTREMES = {Integer.MIN_VALUE, Integer.MIN_VALUE + 1, -1000000000, -10, 10, 100,
+        1000000000, Integer.MAX_VALUE - 1, Integer.MAX_VALUE};
+
+    private int extreme() {
+        return EXTREMES[below(EXTREMES.length)];
+    }
+
     /** Mostly a number that exists. */
     private int oneOf(int count) {
-        return chance(96) ? below(Math.max(1, count)) : below(count + 4) - 2;
+        if (chance(96)) {
+            return below(Math.max(1, count));
+        }
+        return chance(80) ? below(count + 4) - 2 : extreme();
     }
 
     private int place() {
@@ -283,7 +293,7 @@ public final class RandomRunsTest {
         int f = oneOf(films);
         int g = chance(90) && films > 1 ? (f + 1 + below(films - 1)) % films : oneOf(films);
         int h = oneOf(houses);
-        int day = below(100) < 90 ? 1 + below(6) : below(12) - 3;
+        int day = chance(90) ? 1 + below(6) : chance(80) ? below(12) - 3 : extreme();
         int kind = below(16);
         if (kind < 5) {
             return same("book(" + s + "," + f + ")", () -> x.book(s, f), () -> model.book(s, f));
@@ -310,10 +320,10 @@ public final class RandomRunsTest {
     private boolean setting(int h, int s) {
         int kind = below(3);
         if (kind == 0) {
-            int p = chance(90) ? 1 + below(100) : below(120) - 10;
+            int p = chance(90) ? 1 + below(100) : chance(80) ? below(120) - 10 : extreme();
             return same("setHoldover(" + h + "," + p + ")", () -> x.setHoldover(h, p), () -> model.setHoldover(h, p));
         }
-        int r = chance(90) ? below(1000) : below(10200) - 100;
+        int r = chance(90) ? below(1000) : chance(80) ? below(10200) - 100 : extreme();
         if (kind == 1) {
             return same("setRent(" + s + "," + r + ")", () -> x.setRent(s, r), () -> model.setRent(s, r));
         }
@@ -339,13 +349,13 @@ public final class RandomRunsTest {
 
     private boolean formatting() {
         int s = oneOf(screens);
-        int i = below(26) - 1;
+        int i = chance(95) ? below(26) - 1 : extreme();
         return chance(50) ? same("format(" + s + ")", () -> x.format(s), () -> model.format(s))
                 : same("formattedByte(" + i + ")", () -> x.formattedByte(i), () -> model.formattedByte(i));
     }
 
     private boolean lookAtChain() {
-        int what = below(10) - (chance(90) ? 0 : 1);
+        int what = chance(95) ? below(10) : chance(70) ? -1 : extreme();
         int h = oneOf(houses);
         int s = oneOf(screens);
         int f = oneOf(films);
@@ -368,7 +378,7 @@ public final class RandomRunsTest {
         int h = oneOf(houses);
         int s = oneOf(screens);
         int f = oneOf(films);
-        int day = chance(95) ? below(7) : below(12) - 3;
+        int day = chance(95) ? below(7) : chance(80) ? below(12) - 3 : extreme();
         switch (below(12)) {
             case 0: return same("shown(" + s + "," + day + ")", () -> x.shown(s, day), () -> model.shown(s, day));
             case 1: return same("visitors(" + s + "," + day + ")", () -> x.visitors(s, day),

@@ -1,0 +1,230 @@
+/** Promises 34 to 39 and the constants: formatted screens, undo, snapshots. */
+public final class HistoryTest {
+    private static final int NONE = CinemaChain.NONE;
+
+    public static void main(String[] args) {
+        constants();
+        promise34Format();
+        promise35FormattedByte();
+        promise36UndoCount();
+        promise37Undo();
+        promise37Ten();
+        promise37Closes();
+        promise38SaveSnapshot();
+        promise39RestoreSnapshot();
+        Check.end();
+    }
+
+    private static void constants() {
+        Check.same("NONE", CinemaChain.NONE, -1);
+        Check.same("HIDDEN", CinemaChain.HIDDEN, -1000000000);
+    }
+
+    private static void promise34Format() {
+        CinemaChain x = Texts.bookedHouses();
+        x.split(1, 1, 2, 5);
+        x.empty(2);
+        Check.sameText("a whole week", Check.formatted(x, 0), "s0: 0 0 0 0 0 0 0");
+        Check.sameText("a split week", Check.formatted(x, 1), "s1: 1 1 1 1 1 2 2");
+        Check.sameText("an empty screen", Check.formatted(x, 2), "s2: - - - - - - -");
+        x.close();
+        Check.sameText("a held screen", Check.formatted(x, 0), "s0: 0 0 0 0 0 0 0 held");
+        Check.same("its length", x.format(0), 22);
+        Check.noSuch("format(4)", () -> x.format(4));
+        Check.noSuch("format(-1)", () -> x.format(-1));
+    }
+
+    private static String lastText(CinemaChain x, int length) {
+        StringBuilder text = new StringBuilder();
+        for (int i = 0; i < length; i++) {
+            text.append((char) x.formattedByte(i));
+        }
+        return text.toString();
+    }
+
+    private static void promise35FormattedByte() {
+        CinemaChain x = Texts.twoHouses();
+        Check.same("no text yet", x.formattedByte(0), NONE);
+        x.book(3, 2);
+        x.format(3);
+        String due = "s3: 2 2 2 2 2 2 2";
+        Check.same("the first byte", x.formattedByte(0), 's');
+        Check.same("the last byte", x.formattedByte(16), '2');
+        Check.same("behind it", x.formattedByte(17), NONE);
+        Check.same("before it", x.formattedByte(-1), NONE);
+        Check.same("far behind it", x.formattedByte(Integer.MAX_VALUE), NONE);
+        x.saveSnapshot();
+        x.empty(3);
+        Check.sameText("behind another operation", lastText(x, 17), due);
+        x.undo();
+        Check.sameText("behind undo", lastText(x, 17), due);
+        x.restoreSnapshot();
+        Check.sameText("behind restoreSnapshot", lastText(x, 17), due);
+        Check.noSuch("format(9)", () -> x.format(9));
+        Check.sameText("behind a format that throws", lastText(x, 17), due);
+        Check.load(x, "house 1 1;");
+        Check.sameText("behind load", lastText(x, 17), due);
+        CinemaChain y = Texts.bookedHouses();
+        y.close();
+        y.format(0);
+        y.format(2);
+        Check.same("a shorter text leaves nothing of a longer one", y.formattedByte(17), NONE);
+    }
+
+    private static void promise36UndoCount() {
+        CinemaChain x = Texts.twoHouses();
+        Check.same("undoCount", x.undoCount(), 0);
+        for (int i = 1; i < 13; i++) {
+            x.empty(0);
+            Check.same("undoCount", x.undoCount(), Math.min(i, 10));
+        }
+        x.undo();
+        Check.same("undoCount behind undo", x.undoCount(), 9);
+        x.forecast(0, 0);
+        x.book(3, 0);
+        Check.same("refused calls do not count", x.undoCount(), 9);
+    }
+
+    private static void allWhats(StringBuilder all, Answer answer) {
+        for (int what = 0; what < 20; what++) {
+            int asked = what;
+            String thrown = Check.thrownBy(() -> all.append(answer.to(asked)).append(' '));
+            if (!thrown.equals("nothing")) {
+                all.append(';');
+                return;
+            }
+        }
+    }
+
+    private interface Answer {
+        int to(int what);
+    }
+
+    /** Every answer that depends on what operations change. */
+    private static String allOf(CinemaChain x) {
+        StringBuilder all = new StringBuilder();
+        allWhats(all, x::size);
+        allWhats(all, x::total);
+        for (int i = 0; i < 20; i++) {
+            int n = i;
+            allWhats(all, what -> x.house(n, what));
+            allWhats(all, what -> x.screen(n, what));
+            allWhats(all, what -> x.film(n, what));
+            allWhats(all, what -> x.closed(n, what));
+            allWhats(all, what -> x.prints(n, what - 1));
+            allWhats(all, what -> x.visitors(n, what));
+            allWhats(all, what -> x.run(n, what));
+            allWhats(all, what -> x.share(what, n));
+        }
+        return all.toString();
+    }
+
+    private static void undoes(CinemaChain x, String what, Check.Call operation) {
+        String before = allOf(x);
+        int undos = x.undoCount();
+        operation.run();
+        String between = allOf(x);
+        Check.no(what + " changes nothing", before.equals(between));
+        Check.same("undo of " + what, x.undo(), Math.min(undos, 9));
+        Check.sameText("everything behind undo of " + what, allOf(x), before);
+        operation.run();
+        Check.sameText(what + " again", allOf(x), between);
+    }
+
+    private static void promise37Undo() {
+        CinemaChain x = Texts.twoHouses();
+        undoes(x, "book", () -> x.book(0, 0));
+        undoes(x, "split", () -> x.split(1, 1, 2, 3));
+        undoes(x, "book over a split week", () -> x.book(1, 1));
+        undoes(x, "empty", () -> x.empty(1));
+        undoes(x, "move", () -> x.move(0, NONE, 1));
+        undoes(x, "setHoldover", () -> x.setHoldover(0, 60));
+        undoes(x, "setRent", () -> x.setRent(2, 60));
+        undoes(x, "setFee", () -> x.setFee(60));
+        undoes(x, "program", () -> x.program(0));
+        undoes(x, "close", () -> x.close());
+        undoes(x, "a second close", () -> x.close());
+        Check.same("the ten most recent ones", x.undoCount(), 10);
+    }
+
+    private static void promise37Ten() {
+        CinemaChain x = new CinemaChain();
+        for (int fee = 1; fee <= 12; fee++) {
+            x.setFee(fee);
+        }
+        for (int left = 9; left >= 0; left--) {
+            Check.same("undo", x.undo(), left);
+            Check.same("the fee before", x.size(4), left + 2);
+        }
+        Check.same("no eleventh undo", x.undo(), NONE);
+        Check.same("nothing changes", x.size(4), 2);
+        x.setFee(2);
+        Check.same("a call that changes nothing is recorded", x.undo(), 0);
+    }
+
+    private static void promise37Closes() {
+        CinemaChain x = Texts.bookedHouses();
+        String[] before = new String[30];
+        for (int week = 0; week < 25; week++) {
+            before[week] = allOf(x);
+            x.setRent(0, week);
+            x.undo();
+            x.close();
+        }
+        for (int week = 24; week >= 15; week--) {
+            x.undo();
+            Check.sameText("everything as before the close of week " + week, allOf(x), before[week]);
+        }
+        Check.same("undo", x.undo(), NONE);
+        Check.same("the amounts of 15 weeks", x.closed(14, 0), 5152);
+    }
+
+    private static void promise38SaveSnapshot() {
+        CinemaChain x = Texts.bookedHouses();
+        x.move(0, NONE, 1);
+        x.close();
+        String first = allOf(x);
+        int undos = x.undoCount();
+        x.saveSnapshot();
+        Check.same("it is no operation", x.undoCount(), undos);
+        x.undo();
+        x.undo();
+        x.setFee(8);
+        x.close();
+        Check.yes("restoreSnapshot", x.restoreSnapshot());
+        Check.sameText("everything as it was", allOf(x), first);
+        x.setHoldover(1, 3);
+        x.book(2, 2);
+        String second = allOf(x);
+        x.saveSnapshot();
+        x.close();
+        x.restoreSnapshot();
+        Check.sameText("the later snapshot", allOf(x), second);
+        CinemaChain y = new CinemaChain();
+        y.saveSnapshot();
+        y.setFee(5);
+        y.restoreSnapshot();
+        Check.same("a snapshot of a new object", y.size(4), 0);
+    }
+
+    private static void promise39RestoreSnapshot() {
+        CinemaChain x = Texts.bookedHouses();
+        Check.no("restoreSnapshot without one", x.restoreSnapshot());
+        Check.same("nothing changes", x.size(6), 4);
+        Check.same("the undo history stays", x.undoCount(), 4);
+        x.saveSnapshot();
+        x.close();
+        Check.yes("restoreSnapshot", x.restoreSnapshot());
+        Check.same("no closed week", x.size(3), 0);
+        Check.same("takings again", x.house(0, 3), 4900);
+        Check.same("no undo history", x.undoCount(), 0);
+        Check.same("nothing to undo", x.undo(), NONE);
+        x.setFee(9);
+        x.empty(0);
+        Check.yes("restoreSnapshot again", x.restoreSnapshot());
+        Check.same("the fee", x.size(4), 7);
+        Check.same("the booking", x.screen(0, 4), 0);
+        Check.load(x, Texts.TWO_HOUSES);
+        Check.no("load discards it", x.restoreSnapshot());
+    }
+}
