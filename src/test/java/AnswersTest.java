@@ -22,6 +22,7 @@ public final class AnswersTest {
         promise22Closed();
         promise23MeanTakings();
         promise24Filled();
+        fullChain();
         Check.end();
     }
 
@@ -122,16 +123,18 @@ public final class AnswersTest {
     }
 
     private static void promise9Term() {
-        CinemaChain x = Check.loaded("film 1 1 1 90 0 7 60;film 1 1 1 5;");
+        CinemaChain x = Check.loaded("film 1 1 1 90 0 7 60;film 1 1 1 5;film 1 1 1 8 9;");
         int[] due = {90, 0, 7, 60};
         for (int index = 0; index < due.length; index++) {
             Check.same("term(0, " + index + ")", x.term(0, index), due[index]);
         }
         Check.same("term(1, 0)", x.term(1, 0), 5);
+        Check.same("term(2, 0)", x.term(2, 0), 8);
+        Check.same("term(2, 1)", x.term(2, 1), 9);
         Check.noSuch("term(0, 4)", () -> x.term(0, 4));
         Check.noSuch("term(0, -1)", () -> x.term(0, -1));
         Check.noSuch("term(1, 1)", () -> x.term(1, 1));
-        Check.noSuch("term(2, 0)", () -> x.term(2, 0));
+        Check.noSuch("term(3, 0)", () -> x.term(3, 0));
         Check.noSuch("term(-1, 0)", () -> x.term(-1, 0));
     }
 
@@ -205,6 +208,10 @@ public final class AnswersTest {
             y.book(screen, 0);
         }
         visitorsAre(y, 3, 0, 30, 10, 0, 30);
+        CinemaChain z = Check.loaded("house 1 9;screen 0 9 1 0;screen 0 10 1 0;film 12 9 0 0;prints 0 0 2;");
+        z.book(0, 0);
+        z.book(1, 0);
+        visitorsAre(z, 0, 2, 10);
     }
 
     private static void promise13Share() {
@@ -318,6 +325,25 @@ public final class AnswersTest {
         x.book(3, 2);
         x.book(2, 2);
         chartIs(x, 2, 1, 0);
+        CinemaChain y = Check.loaded("house 7 9;house 8 9;screen 0 9 1 0;screen 1 9 1 0;film 1 100 0 0;film 8 100 0 0;"
+                + "prints 1 0 1;prints 0 1 1;");
+        y.book(1, 0);
+        for (int week = 0; week < 7; week++) {
+            y.close();
+            y.program(1);
+        }
+        y.empty(1);
+        y.book(0, 1);
+        chartIs(y, 0, 1);
+        Check.same("takings of film 0, as much", y.film(0, 7), 8 * 7 * 7);
+        Check.same("takings of film 1, as much", y.film(1, 6), 8 * 7 * 7);
+        CinemaChain z = Check.loaded("house 1 9;screen 0 9 1 0;film 1 9 0 0;film 1 9 0 0;prints 0 0 1;prints 1 0 1;");
+        z.split(0, 0, 1, 3);
+        chartIs(z, 1, 0);
+        z.split(0, 0, 1, 4);
+        chartIs(z, 0, 1);
+        x.book(0, 0);
+        chartIs(x, 0, 2, 1);
         Check.noSuch("chart(3)", () -> x.chart(3));
         Check.noSuch("chart(-1)", () -> x.chart(-1));
     }
@@ -403,5 +429,37 @@ public final class AnswersTest {
         CinemaChain y = Check.loaded("house 1 1;screen 0 3 1 0;film 9 1 1 1;prints 0 0 1;");
         y.book(0, 0);
         Check.sameNumber("filled to the last seat", y.filled(), 1);
+    }
+
+    /** As many of all as there may be. */
+    private static void fullChain() {
+        StringBuilder text = new StringBuilder("house 9 50;house 8 50;house 7 50;house 6 50;");
+        for (int screen = 0; screen < 10; screen++) {
+            text.append("screen ").append(screen % 4).append(" 9 1 ").append(screen).append(';');
+        }
+        for (int film = 0; film < 6; film++) {
+            text.append("film ").append(9 - film).append(" 100 0 0 0 0 ").append(film).append(';');
+            text.append("prints ").append(film).append(' ').append(film % 4).append(" 9;");
+        }
+        CinemaChain x = Check.loaded(text.toString());
+        for (int screen = 0; screen < 10; screen++) {
+            Check.yes("book", x.book(screen, screen % 4) >= 0);
+        }
+        Check.same("booked screens", x.size(6), 10);
+        Check.sameNumber("filled", x.filled(), 210f / 630f);
+        Check.same("no more prints may come", x.move(5, 1, NONE), 1);
+        int firstOnes = (9 * 9 + 8 * 8 + 7 * 7 + 6 * 6) * 7;
+        Check.same("the rents of house 3", x.house(3, 5), 6 * 6 * 7 - 3 - 7);
+        Check.same("all screens match", Check.query(x, "many screen < 10"), 10);
+        Check.same("the last screen", Check.query(x, "first rent > 8"), 9);
+        chartIs(x, 0, 1, 2, 3, 4, 5);
+        Check.same("close", x.close(), firstOnes);
+        Check.same("held screens", x.size(7), 4);
+        Check.same("program(3)", x.program(3), 0);
+        Check.same("program(1) puts film 5 on screen 9", x.program(1), 1);
+        Check.same("the last film", x.bestFilm(9), 5);
+        Check.same("the last term", x.term(5, 3), 5);
+        // Film 1 in house 0 would gain as much: 9 * 8 * 7.
+        Check.same("film 0 to house 1", x.bestMove(), 12);
     }
 }

@@ -53,6 +53,9 @@ public final class BestTest {
         for (int prints = 0; prints < 5; prints++) {
             CinemaChain x = Check.loaded(text + "prints 0 depot 9;prints 0 0 " + prints + ";");
             Check.same("bestGain with " + prints + " prints", x.bestGain(0), prints * 700);
+            for (int screen = 0; screen < 4; screen++) {
+                Check.same("bestFilm with " + prints + " prints", x.bestFilm(screen), screen + prints < 4 ? NONE : 0);
+            }
         }
     }
 
@@ -114,6 +117,13 @@ public final class BestTest {
         CinemaChain y = Check.loaded("house 1 9;house 2 9;house 3 9;screen 2 9 1 0;film 9 9 0 0;film 9 9 0 0;"
                 + "prints 1 1 1;");
         Check.same("all three numbers", y.bestMove(), 100 + 20 + 3);
+        String screens = "house 2 9;house 3 9;screen 0 9 1 0;screen 0 9 1 0;screen 1 9 1 0;";
+        Check.same("only one print is moved",
+                Check.loaded(screens + "film 99 9 0 0;prints 0 depot 2;").bestMove(), 2);
+        Check.same("a gain of 1", Check.loaded(screens.replace("house 3", "house 1") + "film 1 9 0 90;"
+                + "prints 0 depot 1;prints 0 0 1;").bestMove(), 2);
+        Check.same("another film cannot take its place", Check.loaded("house 9 9;screen 0 9 1 0;film 9 9 0 0;"
+                + "film 1 9 0 0;prints 1 0 9;prints 1 depot 1;").bestMove(), NONE);
         Check.same("without films", Check.loaded("house 1 9;house 2 9;screen 0 9 1 0;").bestMove(), NONE);
         Check.same("without houses", Check.loaded("film 1 1 1 1;prints 0 depot 1;").bestMove(), NONE);
     }

@@ -145,6 +145,13 @@ public final class HistoryTest {
         undoes(x, "close", () -> x.close());
         undoes(x, "a second close", () -> x.close());
         Check.same("the ten most recent ones", x.undoCount(), 10);
+        CinemaChain y = Texts.twoHouses();
+        y.book(0, 0);
+        y.close();
+        y.undo();
+        y.empty(0);
+        y.close();
+        Check.same("no age by a week that was undone", y.film(0, 4), 0);
     }
 
     private static void promise37Ten() {

@@ -142,6 +142,14 @@ public final class OperationsTest {
         x.split(1, 1, 0, 6);
         Check.same("one may go again", x.move(0, 0, 1), -4);
         Check.same("bookings of another house do not matter", x.move(0, 1, 0), 3);
+        x.move(0, 0, 1);
+        x.split(0, 0, 1, 1);
+        x.empty(1);
+        x.split(1, 0, 1, 1);
+        Check.same("no second print of the other film", x.screen(1, 4), NONE);
+        x.move(1, 1, 0);
+        x.split(1, 0, 1, 1);
+        Check.same("both are needed on day 0 alone", x.move(0, 0, 1), -3);
     }
 
     private static void promise29Close() {
@@ -180,6 +188,13 @@ public final class OperationsTest {
         Check.same("25 of 40 hold screen 0 once more", x.screen(0, 7), 1);
         x.close();
         Check.same("12 of 40 do not", x.screen(0, 7), 0);
+        x.split(0, 2, 1, 6);
+        x.setHoldover(0, 5);
+        x.close();
+        Check.same("the film of day 6 alone is held", x.screen(0, 4), 1);
+        x.undo();
+        x.undo();
+        x.undo();
         Check.same("it is empty then", x.screen(0, 4), NONE);
         Check.same("and can be booked", x.book(0, 2), 630);
     }

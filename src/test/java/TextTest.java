@@ -137,6 +137,9 @@ public final class TextTest {
         bad("House 5 5;", 1, 0);
         bad("houses 5 5;", 1, 0);
         bad("hous 5 5;", 1, 0);
+        bad("xouse 5 5;", 1, 0);
+        bad("housez 5 5;", 1, 0);
+        bad("ahouse 5 5;", 1, 0);
         bad("hou se 5 5;", 1, 0);
         bad("house -5 5;", 1, 6);
         bad("house 5 5,", 1, 9);
@@ -175,6 +178,9 @@ public final class TextTest {
         Check.same("an empty screen", x.visitors(0, 0), 0);
         Check.same("nothing to undo", x.undo(), CinemaChain.NONE);
         Check.no("no snapshot", x.restoreSnapshot());
+        x.setFee(3);
+        Check.load(x, HOUSE);
+        Check.same("nothing to undo behind load", x.undoCount(), 0);
     }
 
     private static void promise3Errors() {
@@ -203,6 +209,7 @@ public final class TextTest {
         bad(HOUSE + full + SCREEN, 4, 77);
         bad(HOUSE + full + "screen 1 1 1 1;", 2, 77);
         bad(HOUSE + full + "screen x", 1, 77);
+        bad(houses + "screen 4 1 1 1;", 2, 47);
         bad(HOUSE + full + "screen 0", 4, 77);
         String second = full.replace("screen 0", "screen 1");
         String ten = houses + full + second + "screen 2 1 1 1;screen 3 1 1 1;";
@@ -308,6 +315,8 @@ public final class TextTest {
         refused("many", 1, 4);
         refused("many  ", 1, 6);
         refused("last 1=1", 1, 0);
+        refused("1=1", 1, 0);
+        refused("manyfirst 1=1", 1, 0);
         refused("many many", 1, 5);
         refused("many screen", 1, 11);
         refused("many screen=", 1, 12);
