@@ -42,6 +42,7 @@ public final class FaceTest {
         for (Class<?> each : inside) {
             Check.yes(each + " is static", Modifier.isStatic(each.getModifiers()));
             Check.no(each + " is public", Modifier.isPublic(each.getModifiers()));
+            Check.yes("some twenty fields at most in " + each, each.getDeclaredFields().length <= 20);
         }
     }
 
@@ -73,6 +74,11 @@ public final class FaceTest {
         for (Method method : CinemaChain.class.getDeclaredMethods()) {
             if (!Modifier.isPublic(method.getModifiers()) && !method.isSynthetic()) {
                 Check.yes(method + " is private", Modifier.isPrivate(method.getModifiers()));
+                Check.no(method + " has the name of a public one", names.contains(method.getName()));
+            }
+        }
+        for (Class<?> inside : CinemaChain.class.getDeclaredClasses()) {
+            for (Method method : inside.getDeclaredMethods()) {
                 Check.no(method + " has the name of a public one", names.contains(method.getName()));
             }
         }

@@ -71,7 +71,8 @@ public final class TextTest {
         Check.same("load of an empty text", x.load(0), 0);
         Check.same("houses then", x.size(0), 0);
         Check.same("no fee then", x.size(4), 0);
-        Check.load(x, HOUSE + FILM + "prints 0 0 3;prints 0 depot 9;prints 0 0 2;fee 8;fee 999;prints 0 depot 0;fee 3;");
+        Check.load(x, HOUSE + FILM + "prints 0 0 3;prints 0 depot 9;prints 0 0 2;fee 8;fee 999;"
+                + "prints 0 depot 0;fee 3;");
         Check.same("the last prints count", x.prints(0, 0), 2);
         Check.same("the last prints count", x.prints(0, CinemaChain.NONE), 0);
         Check.same("the last fee counts", x.size(4), 3);
