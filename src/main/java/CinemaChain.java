@@ -680,7 +680,8 @@ public final class CinemaChain {
             for (int screen = 0; screen < chain.screens; screen++) {
                 for (int day = 0; day < DAYS; day++) {
                     int film = state.filmOn(screen, day);
-                    table[screen * DAYS + day] = film == NONE ? 0 : expectedVisitors(screen, film, day);
+                    boolean open = film >= 0 && film < chain.films;
+                    table[screen * DAYS + day] = open ? expectedVisitors(screen, film, day) : 0;
                 }
             }
         }
