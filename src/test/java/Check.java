@@ -9,6 +9,7 @@ final class Check {
 
     private static int passed;
     private static int failed;
+    private static String about = "";
 
     private Check() {
     }
@@ -41,6 +42,30 @@ final class Check {
         sameText(what, thrownBy(call), "IllegalArgumentException");
     }
 
+    interface NumberCall {
+        void with(int number);
+    }
+
+    /** Both ends are answered; the numbers beside them and the extreme ones are no such element. */
+    static void noSuchOutside(String what, int least, int greatest, NumberCall call) {
+        outside(what, least, greatest, call, "NoSuchElementException");
+    }
+
+    static void illegalOutside(String what, int least, int greatest, NumberCall call) {
+        outside(what, least, greatest, call, "IllegalArgumentException");
+    }
+
+    private static void outside(String what, int least, int greatest, NumberCall call, String exception) {
+        int[] within = {least, greatest};
+        for (int number : within) {
+            sameText(what + " with " + number, thrownBy(() -> call.with(number)), "nothing");
+        }
+        int[] without = {least - 1, greatest + 1, Integer.MIN_VALUE, Integer.MAX_VALUE};
+        for (int number : without) {
+            sameText(what + " with " + number, thrownBy(() -> call.with(number)), exception);
+        }
+    }
+
     /** The exact class: a subclass would be another exception than the document's. */
     static String thrownBy(Call call) {
         try {
@@ -56,8 +81,17 @@ final class Check {
             passed++;
         } else {
             failed++;
-            System.out.println("  " + line);
+            System.out.println("  " + line + (about.isEmpty() ? "" : " (" + about + ")"));
         }
+    }
+
+    /** What the following answers are about, for the line of a wrong one. */
+    static void about(String subject) {
+        about = subject;
+    }
+
+    static int count() {
+        return passed + failed;
     }
 
     static void end() {
@@ -97,6 +131,24 @@ final class Check {
         CinemaChain x = new CinemaChain();
         yes("the text of the test can be loaded", load(x, text) >= 0);
         return x;
+    }
+
+    static void loads(String text) {
+        CinemaChain x = new CinemaChain();
+        yes("can be loaded: " + text, load(x, text) >= 0);
+        same("errorPosition behind " + text, x.errorPosition(), CinemaChain.NONE);
+    }
+
+    static void failsToLoad(String text, int code, int position) {
+        CinemaChain x = new CinemaChain();
+        same("load of " + text, load(x, text), -10 - code);
+        same("errorPosition behind " + text, x.errorPosition(), position);
+        same("houses behind " + text, x.size(0), 0);
+    }
+
+    static void failsToQuery(CinemaChain x, String text, int code, int position) {
+        same("query " + text, query(x, text), CinemaChain.HIDDEN - code);
+        same("errorPosition behind " + text, x.errorPosition(), position);
     }
 
     static String formatted(CinemaChain x, int screen) {

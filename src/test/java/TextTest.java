@@ -78,80 +78,67 @@ public final class TextTest {
         Check.same("the last fee counts", x.size(4), 3);
     }
 
-    private static void good(String text) {
-        CinemaChain x = new CinemaChain();
-        Check.yes("can be loaded: " + text, Check.load(x, text) >= 0);
-        Check.same("errorPosition behind " + text, x.errorPosition(), CinemaChain.NONE);
-    }
-
-    private static void bad(String text, int code, int position) {
-        CinemaChain x = new CinemaChain();
-        Check.same("load of " + text, Check.load(x, text), -10 - code);
-        Check.same("errorPosition behind " + text, x.errorPosition(), position);
-        Check.same("houses behind " + text, x.size(0), 0);
-    }
-
     private static void promise3Ranges() {
-        good("house 1 1;house 99 100;");
-        bad("house 0 1;", 2, 6);
-        bad("house 100 1;", 2, 6);
-        bad("house 1 0;", 2, 8);
-        bad("house 1 101;", 2, 8);
-        good(HOUSE + "screen 0 1 1 0;screen 0 500 6 9999;");
-        bad(HOUSE + "screen 1 1 1 0;", 2, 17);
-        bad(HOUSE + "screen 0 0 1 0;", 2, 19);
-        bad(HOUSE + "screen 0 501 1 0;", 2, 19);
-        bad(HOUSE + "screen 0 1 0 0;", 2, 21);
-        bad(HOUSE + "screen 0 1 7 0;", 2, 21);
-        bad(HOUSE + "screen 0 1 1 10000;", 2, 23);
-        good("film 0 0 0 0;film 9999 100 9999 90 90 90 90;");
-        bad("film 10000 0 0 0;", 2, 5);
-        bad("film 0 101 0 0;", 2, 7);
-        bad("film 0 0 10000 0;", 2, 9);
-        bad("film 0 0 0 91;", 2, 11);
-        bad("film 0 0 0 0 91;", 2, 13);
-        bad("film 0 0 0 0 0 91;", 2, 15);
-        bad("film 0 0 0 0 0 0 91;", 2, 17);
-        bad("film 0 0 0 0 0 0 0 0;", 1, 19);
-        bad("film 0 0 0 0 0 0 0 91;", 1, 19);
-        good(HOUSE + FILM + "prints 0 0 9;prints 0 depot 0;");
-        bad(HOUSE + FILM + "prints 1 0 9;", 2, 30);
-        bad(HOUSE + FILM + "prints 0 1 9;", 2, 32);
-        bad(HOUSE + FILM + "prints 0 0 10;", 2, 34);
-        bad(FILM + "prints 0 0 1;", 2, 22);
-        bad("prints 0 depot 1;", 2, 7);
-        good("fee 0;fee 999;");
-        bad("fee 1000;", 2, 4);
-        bad("house 99999999999999999999999999999999999999 1;", 2, 6);
-        bad("house 4294967301 1;", 2, 6);
-        good("house 000000000000000000000000000005 0100;");
+        Check.loads("house 1 1;house 99 100;");
+        Check.failsToLoad("house 0 1;", 2, 6);
+        Check.failsToLoad("house 100 1;", 2, 6);
+        Check.failsToLoad("house 1 0;", 2, 8);
+        Check.failsToLoad("house 1 101;", 2, 8);
+        Check.loads(HOUSE + "screen 0 1 1 0;screen 0 500 6 9999;");
+        Check.failsToLoad(HOUSE + "screen 1 1 1 0;", 2, 17);
+        Check.failsToLoad(HOUSE + "screen 0 0 1 0;", 2, 19);
+        Check.failsToLoad(HOUSE + "screen 0 501 1 0;", 2, 19);
+        Check.failsToLoad(HOUSE + "screen 0 1 0 0;", 2, 21);
+        Check.failsToLoad(HOUSE + "screen 0 1 7 0;", 2, 21);
+        Check.failsToLoad(HOUSE + "screen 0 1 1 10000;", 2, 23);
+        Check.loads("film 0 0 0 0;film 9999 100 9999 90 90 90 90;");
+        Check.failsToLoad("film 10000 0 0 0;", 2, 5);
+        Check.failsToLoad("film 0 101 0 0;", 2, 7);
+        Check.failsToLoad("film 0 0 10000 0;", 2, 9);
+        Check.failsToLoad("film 0 0 0 91;", 2, 11);
+        Check.failsToLoad("film 0 0 0 0 91;", 2, 13);
+        Check.failsToLoad("film 0 0 0 0 0 91;", 2, 15);
+        Check.failsToLoad("film 0 0 0 0 0 0 91;", 2, 17);
+        Check.failsToLoad("film 0 0 0 0 0 0 0 0;", 1, 19);
+        Check.failsToLoad("film 0 0 0 0 0 0 0 91;", 1, 19);
+        Check.loads(HOUSE + FILM + "prints 0 0 9;prints 0 depot 0;");
+        Check.failsToLoad(HOUSE + FILM + "prints 1 0 9;", 2, 30);
+        Check.failsToLoad(HOUSE + FILM + "prints 0 1 9;", 2, 32);
+        Check.failsToLoad(HOUSE + FILM + "prints 0 0 10;", 2, 34);
+        Check.failsToLoad(FILM + "prints 0 0 1;", 2, 22);
+        Check.failsToLoad("prints 0 depot 1;", 2, 7);
+        Check.loads("fee 0;fee 999;");
+        Check.failsToLoad("fee 1000;", 2, 4);
+        Check.failsToLoad("house 99999999999999999999999999999999999999 1;", 2, 6);
+        Check.failsToLoad("house 4294967301 1;", 2, 6);
+        Check.loads("house 000000000000000000000000000005 0100;");
     }
 
     private static void promise3Tokens() {
-        good("house5 5;screen0 1 1 1;film1 1 1 1;prints0depot1;prints0 0 1;fee1;");
-        good(" \n house\n5\n\n5 ; \n");
-        good("house 5 5\n;\nfee 1\n;");
-        bad("house 5 5;\tfee 1;", 1, 10);
-        bad("house 5 5;\rfee 1;", 1, 10);
-        bad("house 5 5;\u00e9", 1, 10);
-        bad("house 5 5;\0", 1, 10);
-        bad("House 5 5;", 1, 0);
-        bad("houses 5 5;", 1, 0);
-        bad("hous 5 5;", 1, 0);
-        bad("xouse 5 5;", 1, 0);
-        bad("housez 5 5;", 1, 0);
-        bad("ahouse 5 5;", 1, 0);
-        bad("hou se 5 5;", 1, 0);
-        bad("house -5 5;", 1, 6);
-        bad("house 5 5,", 1, 9);
-        bad("house 5a 5;", 1, 7);
-        bad("house 5 5 5;", 1, 10);
-        bad(";", 1, 0);
-        bad("5", 1, 0);
-        bad("depot", 1, 0);
-        bad("house 5 house", 1, 8);
-        bad(FILM + "prints 0 depots 1;", 1, 22);
-        bad(FILM + "prints depot 0 1;", 1, 20);
+        Check.loads("house5 5;screen0 1 1 1;film1 1 1 1;prints0depot1;prints0 0 1;fee1;");
+        Check.loads(" \n house\n5\n\n5 ; \n");
+        Check.loads("house 5 5\n;\nfee 1\n;");
+        Check.failsToLoad("house 5 5;\tfee 1;", 1, 10);
+        Check.failsToLoad("house 5 5;\rfee 1;", 1, 10);
+        Check.failsToLoad("house 5 5;\u00e9", 1, 10);
+        Check.failsToLoad("house 5 5;\0", 1, 10);
+        Check.failsToLoad("House 5 5;", 1, 0);
+        Check.failsToLoad("houses 5 5;", 1, 0);
+        Check.failsToLoad("hous 5 5;", 1, 0);
+        Check.failsToLoad("xouse 5 5;", 1, 0);
+        Check.failsToLoad("housez 5 5;", 1, 0);
+        Check.failsToLoad("ahouse 5 5;", 1, 0);
+        Check.failsToLoad("hou se 5 5;", 1, 0);
+        Check.failsToLoad("house -5 5;", 1, 6);
+        Check.failsToLoad("house 5 5,", 1, 9);
+        Check.failsToLoad("house 5a 5;", 1, 7);
+        Check.failsToLoad("house 5 5 5;", 1, 10);
+        Check.failsToLoad(";", 1, 0);
+        Check.failsToLoad("5", 1, 0);
+        Check.failsToLoad("depot", 1, 0);
+        Check.failsToLoad("house 5 house", 1, 8);
+        Check.failsToLoad(FILM + "prints 0 depots 1;", 1, 22);
+        Check.failsToLoad(FILM + "prints depot 0 1;", 1, 20);
     }
 
     private static void promise3Replaces() {
@@ -185,42 +172,42 @@ public final class TextTest {
     }
 
     private static void promise3Errors() {
-        bad("house", 1, 5);
-        bad("house ", 1, 6);
-        bad("house 5 5", 1, 9);
-        bad("house 5 5 \n ", 1, 12);
-        bad("house 5 5;screen", 1, 16);
-        bad("film 1 1 1;", 1, 10);
-        bad("prints", 1, 6);
-        bad("fee;", 1, 3);
-        bad("screen 0 1 1 1;", 2, 7);
-        bad("screen x", 1, 7);
+        Check.failsToLoad("house", 1, 5);
+        Check.failsToLoad("house ", 1, 6);
+        Check.failsToLoad("house 5 5", 1, 9);
+        Check.failsToLoad("house 5 5 \n ", 1, 12);
+        Check.failsToLoad("house 5 5;screen", 1, 16);
+        Check.failsToLoad("film 1 1 1;", 1, 10);
+        Check.failsToLoad("prints", 1, 6);
+        Check.failsToLoad("fee;", 1, 3);
+        Check.failsToLoad("screen 0 1 1 1;", 2, 7);
+        Check.failsToLoad("screen x", 1, 7);
         // The first wrong token decides, not the smallest code of the text.
-        bad("house 500 x", 2, 6);
-        bad("house x 500", 1, 6);
+        Check.failsToLoad("house 500 x", 2, 6);
+        Check.failsToLoad("house x 500", 1, 6);
     }
 
     private static void promise3Limits() {
         String houses = HOUSE + HOUSE + HOUSE + HOUSE;
-        good(houses);
-        bad(houses + HOUSE, 3, 40);
-        bad(houses + "house x", 3, 40);
+        Check.loads(houses);
+        Check.failsToLoad(houses + HOUSE, 3, 40);
+        Check.failsToLoad(houses + "house x", 3, 40);
         String full = SCREEN + SCREEN + SCREEN + SCREEN;
-        good(HOUSE + full);
-        bad(HOUSE + full + SCREEN, 4, 77);
-        bad(HOUSE + full + "screen 1 1 1 1;", 2, 77);
-        bad(HOUSE + full + "screen x", 1, 77);
-        bad(houses + "screen 4 1 1 1;", 2, 47);
-        bad(HOUSE + full + "screen 0", 4, 77);
+        Check.loads(HOUSE + full);
+        Check.failsToLoad(HOUSE + full + SCREEN, 4, 77);
+        Check.failsToLoad(HOUSE + full + "screen 1 1 1 1;", 2, 77);
+        Check.failsToLoad(HOUSE + full + "screen x", 1, 77);
+        Check.failsToLoad(houses + "screen 4 1 1 1;", 2, 47);
+        Check.failsToLoad(HOUSE + full + "screen 0", 4, 77);
         String second = full.replace("screen 0", "screen 1");
         String ten = houses + full + second + "screen 2 1 1 1;screen 3 1 1 1;";
-        good(ten);
-        bad(ten + "screen 3 1 1 1;", 3, 190);
-        bad(ten + "screen 0", 3, 190);
+        Check.loads(ten);
+        Check.failsToLoad(ten + "screen 3 1 1 1;", 3, 190);
+        Check.failsToLoad(ten + "screen 0", 3, 190);
         String films = FILM + FILM + FILM + FILM + FILM + FILM;
-        good(films);
-        bad(films + FILM, 3, 78);
-        bad(films + "films", 1, 78);
+        Check.loads(films);
+        Check.failsToLoad(films + FILM, 3, 78);
+        Check.failsToLoad(films + "films", 1, 78);
     }
 
     private static void promise3Lengths() {
@@ -306,9 +293,7 @@ public final class TextTest {
     }
 
     private static void refused(String text, int code, int position) {
-        CinemaChain x = Texts.twoHouses();
-        Check.same("query " + text, Check.query(x, text), CinemaChain.HIDDEN - code);
-        Check.same("errorPosition behind " + text, x.errorPosition(), position);
+        Check.failsToQuery(Texts.twoHouses(), text, code, position);
     }
 
     private static void promise40Errors() {
