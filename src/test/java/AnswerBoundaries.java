@@ -16,7 +16,10 @@ final class AnswerBoundaries {
         promise3();
         promise3Lengths();
         promise4();
-        promises5To8();
+        promise5();
+        promise6();
+        promise7();
+        promise8();
         promises9And10();
         promises11And12();
         promises13To16();
@@ -183,49 +186,73 @@ final class AnswerBoundaries {
         Check.same("a text without an error", x.errorPosition(), NONE);
     }
 
-    private static void promises5To8() {
+    /** A week is closed; screen 0 is held, screen 1 has a split week, one print was moved. */
+    private static CinemaChain secondWeek() {
         CinemaChain x = Texts.bookedHouses();
         x.move(0, NONE, 1);
         x.split(1, 1, 2, 3);
         x.empty(2);
         x.close();
         x.move(0, 1, NONE);
+        x.split(1, 1, 2, 3);
+        return x;
+    }
+
+    private static void promise5() {
+        CinemaChain x = secondWeek();
         Doc.says(5, "0 houses, 1 screens, 2 films, 3 closed weeks, 4 the fee, 5 moves of prints in the present week, 6 screens "
                 + "that are booked, 7 screens that are held");
-        int[] sizes = {2, 4, 3, 1, 7, 1, 1, 1};
-        for (int what = 0; what < sizes.length; what++) {
-            Check.same("size(" + what + ")", x.size(what), sizes[what]);
+        int[] due = {2, 4, 3, 1, 7, 1, 2, 1};
+        for (int what = 0; what < due.length; what++) {
+            Check.same("size(" + what + ")", x.size(what), due[what]);
         }
         Doc.says(5, NO_WHAT);
         Check.noSuchOutside("size", 0, 7, x::size);
+    }
+
+    private static void promise6() {
+        CinemaChain x = secondWeek();
         Doc.says(6, "0 the price, 1 the holdover percentage, 2 its screens, 3 its takings in the present week, 4 the shares "
                 + "there in the present week, 5 its net in the present week");
-        int[] house = {10, 50, 3, 1750, 700, 1750 - 700 - 150};
-        for (int what = 0; what < house.length; what++) {
-            Check.same("house(0, " + what + ")", x.house(0, what), house[what]);
+        // Film 0 takes 1750, film 1 720, film 2 360.
+        int shares = 1750 * 40 / 100 + 360 + 360;
+        int[] due = {10, 50, 3, 2830, shares, 2830 - shares - 150};
+        for (int what = 0; what < due.length; what++) {
+            Check.same("house(0, " + what + ")", x.house(0, what), due[what]);
         }
         Doc.says(6, NO_HOUSE + " or what is out of range");
         Check.noSuchOutside("house", 0, 1, n -> x.house(n, 0));
         Check.noSuchOutside("what of a house", 0, 5, n -> x.house(1, n));
-        x.split(1, 1, 2, 3);
+    }
+
+    private static void screenIs(CinemaChain x, int screen, int... due) {
+        for (int what = 0; what < due.length; what++) {
+            Check.same("screen(" + screen + ", " + what + ")", x.screen(screen, what), due[what]);
+        }
+    }
+
+    private static void promise7() {
+        CinemaChain x = secondWeek();
         Doc.says(7, "0 its house, 1 its seats, 2 its shows, 3 its rent, 4 its only or first film (NONE if it is empty), 5 its "
                 + "second film (NONE without a split week), 6 the day from which it shows the second film (0 without a split "
                 + "week), 7 1 if it is held, otherwise 0, 8 its takings in the present week");
-        int[][] screens = {{0, 20, 2, 100, 0, NONE, 0, 1, 1750}, {0, 10, 3, 50, 1, 2, 3, 0, 24 * 30 + 9 * 40},
-            {0, 30, 1, 0, NONE, NONE, 0, 0, 0}, {1, 50, 1, 7, NONE, NONE, 0, 0, 0}};
-        for (int screen = 0; screen < screens.length; screen++) {
-            for (int what = 0; what < 9; what++) {
-                Check.same("screen(" + screen + ", " + what + ")", x.screen(screen, what), screens[screen][what]);
-            }
-        }
+        screenIs(x, 0, 0, 20, 2, 100, 0, NONE, 0, 1, 1750);
+        screenIs(x, 1, 0, 10, 3, 50, 1, 2, 3, 0, 24 * 30 + 9 * 40);
+        screenIs(x, 2, 0, 30, 1, 0, NONE, NONE, 0, 0, 0);
+        screenIs(x, 3, 1, 50, 1, 7, NONE, NONE, 0, 0, 0);
+        screenIs(Texts.twoHouses(), 1, 0, 10, 3, 50, NONE, NONE, 0, 0, 0);
         Doc.says(7, NO_SCREEN + " or what is out of range");
         Check.noSuchOutside("screen", 0, 3, n -> x.screen(n, 0));
         Check.noSuchOutside("what of a screen", 0, 8, n -> x.screen(3, n));
+    }
+
+    private static void promise8() {
+        CinemaChain x = secondWeek();
         Doc.says(8, "0 its demand, 1 its kept percentage, 2 its guarantee, 3 the number of its terms, 4 its age, 5 its daily "
                 + "demand, 6 its takings in the present week, 7 its takings in all closed weeks");
-        int[] film = {50, 50, 100, 2, 1, 25, 1750, 2800};
-        for (int what = 0; what < film.length; what++) {
-            Check.same("film(0, " + what + ")", x.film(0, what), film[what]);
+        int[] due = {50, 50, 100, 2, 1, 25, 1750, 2800};
+        for (int what = 0; what < due.length; what++) {
+            Check.same("film(0, " + what + ")", x.film(0, what), due[what]);
         }
         x.close();
         Check.same("takings in two closed weeks", x.film(0, 7), 2800 + 1750);
