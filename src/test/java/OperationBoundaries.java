@@ -215,8 +215,11 @@ final class OperationBoundaries {
         String old = Answers.of(x);
         operation.on(x);
         Check.no(what + " changes nothing", Answers.of(x).equals(old));
-        x.undo();
-        Check.sameText("everything behind undo of " + what, Answers.of(x), old);
+        CinemaChain y = Texts.twoHouses();
+        before.on(y);
+        operation.on(y);
+        y.undo();
+        Check.sameText("everything behind undo of " + what, Answers.of(y), old);
     }
 
     private static void bookAll(CinemaChain x) {

@@ -25,8 +25,10 @@ public final class RandomRunsTest {
 
     public static void main(String[] args) {
         int runs = args.length > 0 ? Integer.parseInt(args[0]) : RUNS;
-        for (int run = 0; run < runs; run++) {
-            new RandomRunsTest(run).play(run);
+        Check.about("random runs");
+        boolean good = true;
+        for (int run = 0; run < runs && good; run++) {
+            good = new RandomRunsTest(run).play(run);
         }
         Check.end();
     }
@@ -40,21 +42,25 @@ public final class RandomRunsTest {
         return below(100) < percent;
     }
 
-    private void play(int run) {
+    /** Answers whether all answers of the run were as due. */
+    private boolean play(int run) {
+        boolean good = true;
         // Without a chain there is little to see: most runs begin with one.
         for (int i = 0; i < 4 && screens == 0; i++) {
-            load(chance(90) ? goodText() : spoilt(goodText()));
+            good &= load(chance(90) ? goodText() : spoilt(goodText()));
         }
-        while (calls.size() < CALLS) {
-            if (!step()) {
-                Check.same("run " + run + " after " + calls, 0, 1);
-                return;
-            }
+        while (good && calls.size() < CALLS) {
+            good = step();
         }
-        Check.same("run " + run, 0, 0);
+        Check.yes("run " + run + ", with the last answer of " + calls, good);
+        return good;
     }
 
     private boolean same(String call, Supplier<Object> ours, Supplier<Object> due) {
+        // A step may consist of many calls; behind the last promised one answers are free.
+        if (calls.size() >= CALLS) {
+            return true;
+        }
         String got = answer(ours);
         String want = answer(due);
         calls.add(call + "=" + want);
