@@ -23,6 +23,7 @@ public final class AnswersTest {
         promise23MeanTakings();
         promise24Filled();
         fullChain();
+        greatestAmounts();
         Check.end();
     }
 
@@ -461,5 +462,38 @@ public final class AnswersTest {
         Check.same("the last term", x.term(5, 3), 5);
         // Film 1 in house 0 would gain as much: 9 * 8 * 7.
         Check.same("film 0 to house 1", x.bestMove(), 12);
+    }
+
+    /** The film with the greatest demand fills ten screens with the most seats and shows for sixty weeks. */
+    private static void greatestAmounts() {
+        StringBuilder text = new StringBuilder("house 99 100;".repeat(4));
+        for (int screen = 0; screen < 10; screen++) {
+            text.append("screen ").append(screen % 4).append(" 500 6 9999;");
+        }
+        text.append("film 0 0 0 0;film 9999 100 9999 90;");
+        for (int house = 0; house < 4; house++) {
+            text.append("prints 1 ").append(house).append(" 3;");
+        }
+        CinemaChain x = Check.loaded(text.toString());
+        int full = 500 * 6 * 99 * 7;
+        for (int screen = 0; screen < 10; screen++) {
+            Check.same("book", x.book(screen, 1), full);
+        }
+        Check.same("share of three screens", x.share(0, 1), 5613300);
+        Check.same("net of two screens", x.house(3, 5), 2 * full - 3742200 - 2 * 9999);
+        Check.sameNumber("filled", x.filled(), 1);
+        for (int week = 0; week < 60; week++) {
+            Check.same("close", x.close(), 10 * full);
+        }
+        Check.same("held screens", x.size(7), 10);
+        Check.same("takings", x.total(0), 1247400000);
+        Check.same("shares", x.total(1), 1122660000);
+        Check.same("rents", x.total(2), 5999400);
+        Check.same("what is left", x.total(4), 118740600);
+        Check.same("takings of the film", x.film(1, 7), 1247400000);
+        Check.same("chart", x.chart(0), 1);
+        Check.sameNumber("meanTakings", x.meanTakings(), 20790000);
+        Check.same("bestGain", x.bestGain(0), 3 * full - 5613300);
+        Check.same("forecast", x.forecast(9, 1), full);
     }
 }
